@@ -10,6 +10,7 @@ public final class LevelTest {
         level();
         fullHours();
         ratesOfAllLevels();
+        greatRates();
         smallestRates();
         scores();
         forecast();
@@ -143,6 +144,25 @@ public final class LevelTest {
         rate("level 1 again", park, 1, 0.1875f);
         park.setCapacity(1, 3);
         score("its new score", park, 1, (3 + 0.1875f * 0.5f) / 3);
+    }
+
+    private static void greatRates() {
+        int[] hours = {8, 30, 0, 61, 2};
+        ParkingTariff park = new ParkingTariff();
+        float rate = 0.0f;
+        for (int exits : hours) {
+            for (int i = 0; i < exits; i++) {
+                park.leave(park.enter(0));
+            }
+            Checks.due("left", park.level(0, 4), exits);
+            park.advance(60);
+            rate = rate * 0.75f + exits * 0.25f;
+            rate(exits + " exits", park, 0, rate);
+            park.setCapacity(0, 1);
+            score(exits + " exits, one place", park, 0, 1 + rate * 0.5f);
+            park.setCapacity(0, 40);
+            score(exits + " exits, 40 places", park, 0, (40 + rate * 0.5f) / 40);
+        }
     }
 
     /** Rates shrink to floats below the normal ones, and stay there. */

@@ -112,6 +112,8 @@ public final class PlanTest {
         Checks.due("the third one", park.unit(0, 1390, 2, 0), 1465);
         Checks.due("its band", park.unit(0, 1390, 2, 1), 0);
         Checks.due("its block", park.unit(0, 1390, 2, 2), 0);
+        Checks.due("the first minute", park.unit(3, 0, 0, 0), 0);
+        Checks.due("its last unit", park.unit(3, 0, 99, 0), 99 * 60);
         Checks.due("the last minute", park.unit(3, 99999, 0, 0), 99999);
         Checks.due("far behind it", park.unit(3, 99999, 99, 0), 99999 + 99 * 60);
         Checks.due("its block", park.unit(3, 99999, 99, 2), 4);

@@ -102,6 +102,10 @@ public final class SnapshotTest {
         change(park);
         change(other);
         same("and goes on as before", park, other);
+        park.restore();
+        Checks.due("a folder for all kinds", park.put(0, 0, 0), 2);
+        Checks.due("a folder for one kind", park.put(1, 0, 1), ParkingTariff.WRONG_KIND);
+        Checks.due("a folder that was not made", park.put(2, 0, 0), ParkingTariff.NONE);
     }
 
     private static void textAndReportStay() {

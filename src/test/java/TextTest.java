@@ -18,6 +18,7 @@ public final class TextTest {
         seventhBand();
         whatComesFirst();
         emptiesTheText();
+        earlierTextIsGone();
         reportStays();
         reportLevels();
         Checks.end();
@@ -100,6 +101,15 @@ public final class TextTest {
         Checks.badText("lose 1", 0, OFFSET, 0);
         Checks.badText("cat 1", 0, OFFSET, 0);
         Checks.badText("bane 0,1,5", 0, OFFSET, 0);
+        Checks.badText("daysz", 0, OFFSET, 0);
+        Checks.badText("daysa", 0, OFFSET, 0);
+        Checks.badText("rays", 0, OFFSET, 0);
+        Checks.badText("tree 1", 0, OFFSET, 0);
+        Checks.badText("map 1", 0, OFFSET, 0);
+        Checks.badText("most 1", 0, OFFSET, 0);
+        Checks.badText("land 0,1,5", 0, OFFSET, 0);
+        Checks.badText("days`", 0, OFFSET, 4);
+        Checks.badText("days{", 0, OFFSET, 4);
     }
 
     private static void blanksAndNumbers() {
@@ -161,6 +171,7 @@ public final class TextTest {
         Checks.badText("band 1441,1001,241", 0, NUMBER, 1441);
         Checks.badText("band 0,1001,241", 0, NUMBER, 1001);
         Checks.badText("days;free 60;free 62", 2, NUMBER, 62);
+        Checks.badText("band 0,1,5;band 1440,1,5", 1, NUMBER, 1440);
     }
 
     private static void order() {
@@ -213,6 +224,28 @@ public final class TextTest {
         Checks.plan("a new text", park, 0, 0, 5, 0);
         Checks.due("the empty text", park.readPlan(0), ParkingTariff.BAD_TEXT);
         Checks.plan("it changes nothing", park, 0, 0, 5, 0);
+    }
+
+    /** What an earlier, longer text had behind the end of a later one is not read. */
+    private static void earlierTextIsGone() {
+        String longer = "band 0,123,60;days";
+        for (int end = 0; end < longer.length(); end++) {
+            ParkingTariff park = new ParkingTariff();
+            Checks.due("the longer one", Checks.read(park, 0, longer), 1);
+            String shorter = longer.substring(0, end);
+            boolean good = end == 12 || end == 13;
+            if (end == 12) {
+                Checks.due("a length of 6", Checks.read(park, 1, shorter), 1);
+                Checks.band("a length of 6", park, 1, 0, 0, 123, 6);
+            } else if (good) {
+                Checks.due("a length of 60", Checks.read(park, 1, shorter), 1);
+                Checks.band("a length of 60", park, 1, 0, 0, 123, 60);
+            } else {
+                Checks.due("'" + shorter + "'", Checks.read(park, 1, shorter), ParkingTariff.BAD_TEXT);
+                boolean word = (end > 0 && end < 4) || end > 14;
+                Checks.report("'" + shorter + "'", park, 1, end < 14 ? 0 : 1, OFFSET, word ? end < 14 ? 0 : 14 : end);
+            }
+        }
     }
 
     private static void reportStays() {

@@ -276,8 +276,14 @@ public final class TicketTest {
         park.pay(0);
         park.advance(1);
         Checks.due("paid nothing", park.leave(0), DUE);
+        Checks.read(park, 0, "band 0,1,5");
+        Checks.due("a cent is due", park.leave(0), DUE);
+        Checks.due("pay it", park.pay(0), 1);
+        Checks.due("that is a payment", park.ticket(0, 7), 1);
+        park.enter(0);
+        park.advance(1);
         Checks.read(park, 0, "band 0,0,5");
-        Checks.due("nothing due", park.leave(0), 0);
+        Checks.due("nothing due", park.leave(1), 0);
     }
 
     private static void ticket() {
