@@ -5,7 +5,7 @@ import java.lang.reflect.Modifier;
 import java.util.Arrays;
 import java.util.TreeSet;
 
-/** The public face: its constants, constructor and methods, and nothing else. */
+/** The public face: its constants, constructor and methods, with the signatures of the promises, and nothing else. */
 public final class FaceTest {
     private static final String[] METHODS = {
         "append(2)", "readPlan(1)", "plan(2)", "band(3)", "fee(3)", "unit(4)", "extend(3)", "addVoucher(2)",
@@ -47,6 +47,9 @@ public final class FaceTest {
         for (Field field : face.getDeclaredFields()) {
             if (!Modifier.isPrivate(field.getModifiers())) {
                 fields.add(field.getName());
+                Checks.due(field.getName() + " is a constant", field.getModifiers(),
+                        Modifier.PUBLIC | Modifier.STATIC | Modifier.FINAL);
+                Checks.due(field.getName() + " is an int", field.getType() == int.class ? 1 : 0, 1);
             }
         }
         same("constants", fields, CONSTANTS);
@@ -64,12 +67,6 @@ public final class FaceTest {
         for (Method method : ParkingTariff.class.getDeclaredMethods()) {
             boolean clash = Modifier.isPrivate(method.getModifiers()) && names.contains(method.getName());
             Checks.due("a private method named " + method.getName(), clash ? 1 : 0, 0);
-        }
-        for (Class<?> inner : ParkingTariff.class.getDeclaredClasses()) {
-            for (Method method : inner.getDeclaredMethods()) {
-                Checks.due(inner.getName() + " has a method named " + method.getName(),
-                        names.contains(method.getName()) ? 1 : 0, 0);
-            }
         }
     }
 

